@@ -56,6 +56,7 @@ public final class ArrivalTest {
         y.put(0, 5, 50);
         y.pump();
         due.link("length one less than the number", y, Runs.row(3, 0, 2, 1));
+        due.node("no write either", y, 1, 2, 1, 1, 0, -1, -1, 2);
     }
 
     private static void shipWithAnotherTermBeforeCuts(Due due) {
@@ -159,6 +160,7 @@ public final class ArrivalTest {
         due.link("each ACK shipped the next one again", x, Runs.row(1, 1, 2, 1), Runs.row(1, 1, 2, 2));
         due.is("AGREED", x.told(0, 4), 2);
         x.pump();
+        due.node("SHIP 1 of a log of length 3 cuts nothing", x, 1, 2, 3, 1, 0, -1, -1, 4);
         x.pump();
         due.is("ACK 1 again", x.pump(), 2);
         due.is("AGREED stays", x.told(0, 4), 2);
@@ -177,6 +179,13 @@ public final class ArrivalTest {
         due.link("entry 3 is shipped", x, Runs.row(1, 1, 2, 3));
         TwinLog y = Runs.longerThanTold();
         due.link("WANT 3 of a log of length 1", y, Runs.row(1, 0, 3, 0));
+        TwinLog z = new TwinLog();
+        Runs.putUnshipped(z, 0, 1);
+        z.put(0, 1, 10);
+        z.pump();
+        due.link("the empty log wants number 0", z, Runs.row(3, 0, 2, 0));
+        due.is("WANT 0", z.pump(), 3);
+        due.link("entry 0 is shipped", z, Runs.row(1, 1, 2, 0));
     }
 
     private static void wantOfAnEmptyLog(Due due) {

@@ -15,7 +15,7 @@ public final class CrashTest {
         due.node("the other one stays", x, 1, 2, 2, 1, 0, -1, -1, 3);
         due.is("crash(1)", x.crash(1), 1);
         due.is("crash(1) again", x.crash(1), 0);
-        due.is("the fuse is not needed", x.told(1, 2), 0);
+        due.is("node 1 is down", x.told(1, 2), 0);
         for (int node : Runs.WRONG_NODES) {
             due.is("crash(" + node + ")", x.crash(node), TwinLog.BAD);
         }

@@ -1,6 +1,10 @@
+import java.util.function.Supplier;
+import java.util.function.ToIntFunction;
+
 /** Collects the answers that are not as due, for one test class. */
 final class Due {
     private final String test;
+    private String sentence = "";
     private int wrong;
     private int checked;
 
@@ -8,11 +12,16 @@ final class Due {
         this.test = test;
     }
 
+    /** The document's words that the checks from here on rest on; a wrong answer is told with them. */
+    void sentence(String words) {
+        sentence = "\"" + words + "\": ";
+    }
+
     void is(String call, long got, long want) {
         checked++;
         if (got != want) {
             wrong++;
-            System.out.println(test + ": " + call + " answered " + got + ", due is " + want);
+            System.out.println(test + ": " + sentence + call + " answered " + got + ", due is " + want);
         }
     }
 
@@ -44,6 +53,19 @@ final class Due {
             for (int what = 0; what < 3; what++) {
                 is(when + ": entry(" + node + ", " + i + ", " + what + ")", x.entry(node, i, what), rows[i][what]);
             }
+        }
+    }
+
+    /** The call has to answer this and to change nothing that can be seen; each time on a new object. */
+    void refused(String call, Supplier<TwinLog> run, ToIntFunction<TwinLog> asked, int want) {
+        TwinLog x = run.get();
+        String before = State.of(x);
+        is(call, asked.applyAsInt(x), want);
+        String after = State.of(x);
+        checked++;
+        if (!after.equals(before)) {
+            wrong++;
+            System.out.println(test + ": " + sentence + call + " changed\n  " + before + "\nto\n  " + after);
         }
     }
 

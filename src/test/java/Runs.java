@@ -1,6 +1,7 @@
 /** Runs of calls that many tests begin with. */
 final class Runs {
     static final int[] WRONG_NODES = {-1, 2, 3, Integer.MIN_VALUE, Integer.MAX_VALUE};
+    static final int[] WRONG_KEYS = {-1, 16, 17, Integer.MIN_VALUE, Integer.MAX_VALUE};
 
     private Runs() {
     }
@@ -58,6 +59,27 @@ final class Runs {
         for (int i = 0; i < 16; i++) {
             x.put(0, i, i);
         }
+        return x;
+    }
+
+    /** Node 0 has 64 entries, of which node 1 has none; nothing on the link. */
+    static TwinLog fullLog() {
+        TwinLog x = new TwinLog();
+        for (int i = 0; i < 64; i++) {
+            x.put(0, i % 16, 100 + i);
+            x.drop(0);
+        }
+        return x;
+    }
+
+    /** Both nodes have gone down, node 0 with two entries more than node 1 and one SHIP on the link. */
+    static TwinLog bothDown() {
+        TwinLog x = inStep(2);
+        x.put(0, 7, 70);
+        x.drop(0);
+        x.put(0, 8, 80);
+        x.crash(0);
+        x.crash(1);
         return x;
     }
 

@@ -78,7 +78,7 @@ public final class TwinLog {
         if (!receiver.up) {
             return m.kind + NODE_WAS_DOWN;
         }
-        return isLeft(m, receiver) ? m.kind + WAS_LEFT : m.kind;
+        return arrive(m, receiver) ? m.kind : m.kind + WAS_LEFT;
     }
 
     public boolean drop(int i) {
@@ -211,27 +211,27 @@ public final class TwinLog {
         return key >= 0 && key < KEYS;
     }
 
-    /** A message on which the receiver crashes is over, but it was not left. */
-    private boolean isLeft(Message m, Node receiver) {
+    /** Answers false when the message was left; one on which the receiver crashes is over, not left. */
+    private boolean arrive(Message m, Node receiver) {
         if (m.term < receiver.term) {
             if (m.kind == SHIP) {
                 link.send(WANT, receiver, NONE);
             }
-            return true;
+            return false;
         }
         if (m.term > receiver.term && !receiver.follow(m.term)) {
-            return false;
+            return true;
         }
         boolean isForPrimary = m.kind != SHIP;
         if (isForPrimary != receiver.primary) {
-            return true;
+            return false;
         }
         switch (m.kind) {
             case SHIP: takeShip(m, receiver); break;
             case ACK: takeAck(m.number, receiver); break;
             default: takeWant(m.number, receiver); break;
         }
-        return false;
+        return true;
     }
 
     private void takeShip(Message m, Node receiver) {
